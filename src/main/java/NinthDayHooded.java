@@ -1287,7 +1287,8 @@ public final class NinthDayHooded {
         private static final int DEEPEST = 4;
         private static final int THINGS = 7;
         private static final int DEAREST = 99;
-        private static final int NEGATE = '~';
+        /** Above all signs, so that none of a text is taken for it. */
+        private static final int NEGATE = 256;
         private static final int OPEN = '(';
 
         // A number as it is, thing x as -1 - x, a sign that does something as -sign (all below -THINGS).
