@@ -1057,7 +1057,9 @@ public final class NinthDayHooded {
         private int n = 0;
 
         private People() {
-            Arrays.fill(trust, 1);
+            for (int i = 0; i < MOST_PEOPLE * MOST_PEOPLE; i++) {
+                trust[i] = 1;
+            }
         }
 
         private boolean has(int person) {
