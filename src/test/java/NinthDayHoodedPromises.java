@@ -473,6 +473,7 @@ public final class NinthDayHoodedPromises {
         due("nothing changed", 4, x.of(3, 0));
         due("missing", -3, x.sheet(3, -1, 1, 1));
         due("all 0", 0, x.of(3, 0));
+        due("all 0", 0, x.of(0, 0));
         x.set(1, 0, 7);
         due("no entry", 0, x.sheet(1, 0, 5, 5));
         due("all 0", 0, x.of(1, 0));
@@ -534,6 +535,18 @@ public final class NinthDayHoodedPromises {
         NinthDayHooded all = townOf("33;33");
         due("all hooded", 2, all.guides(3));
         dueRow("all hooded", all, 0, 3, -1, -1);
+        NinthDayHooded nine = townOf("00;00;00;00;00;00;00;00;00");
+        due("nine hooded", 9, nine.guides(0));
+        dueRow("nine hooded", nine, 0, 511, -1, -1, -1, -1, -1, -1, -1, -1, -1);
+        nine.set(8, 0, 1);
+        ruleText(nine, "99");
+        due("eight hooded", 6, nine.guides(0));
+        dueRow("the first two are led", nine, 198, 255, 8, 8, -1, -1, -1, -1, -1, -1);
+        nine.set(7, 0, 1);
+        nine.set(6, 0, 1);
+        nine.set(5, 0, 1);
+        due("five hooded", 0, nine.guides(0));
+        dueRow("all as dear as can be", nine, 5 * 99, 31, 5, 5, 6, 6, 7);
         NinthDayHooded d = townOf("20;00;10");
         ruleText(d, "d*10+j");
         due("the day told counts", 0, d.guides(11));
@@ -550,6 +563,15 @@ public final class NinthDayHoodedPromises {
         due("day 1", 0, x.lonely(1));
         dueRow("day 1", x, 0);
         due("day 999", 2, x.lonely(999));
+        trustText(x, 0, "9990");
+        due("the first too", 3, x.lonely(0));
+        dueRow("the first too", x, 3);
+        NinthDayHooded y = townOf("00;10");
+        due("a could lead b", 0, y.lonely(1));
+        dueRow("a could lead b", y, 0);
+        x.lonely(0);
+        trustText(x, 0, "9999");
+        due("b alone", 2, x.lonely(0));
         due("day 1000", NONE, x.lonely(1000));
         due("day -1", NONE, x.lonely(-1));
         dueRow("a refused call leaves the row", x, 2);
@@ -762,6 +784,13 @@ public final class NinthDayHoodedPromises {
         due("others are known", 0, x.led(3, 2));
         x.days(27);
         due("30 days ago", 3, x.led(0, 30));
+        NinthDayHooded nine = townOf("00;10;20;30;40;50;60;70;80");
+        ruleText(nine, "9-j");
+        nine.days(9);
+        due("i led a", 8, nine.led(0, 9));
+        due("h led i", 7, nine.led(8, 1));
+        due("i was not hooded", -2, nine.led(8, 2));
+        due("h was", 8, nine.led(7, 2));
         x.day();
         due("it is out of the book", -2, x.led(0, 30));
         due("k 0", NONE, x.led(0, 0));
@@ -807,6 +836,12 @@ public final class NinthDayHoodedPromises {
         due("19 days", 7, x.ahead(19));
         dueRow("19 days", x, 4, 3, 0, 2 + 1 + 1 + 2 + 1 + 1 + 2, 1);
         due("40 days", 15, x.ahead(40));
+        due("a day", 1, x.ahead(1));
+        dueRow("a day", x, 0, 1, 0, 2, 0);
+        NinthDayHooded nine = townOf("00;10;20;30;40;50;60;70;80");
+        ruleText(nine, "9-j");
+        due("nine of them", 9, nine.ahead(9));
+        dueRow("nine of them", nine, 0, 0, 0, 0, 0, 0, 0, 1, 8, 8 * 1 + 2, 0);
         due("nothing changes", 0, x.count(1));
         due("no lesson", 0, x.lessons(0, 0));
         due("nothing to undo", 0, x.count(7));
@@ -837,6 +872,19 @@ public final class NinthDayHoodedPromises {
         NinthDayHooded y = townOf("40;10p");
         y.days(1);
         due("days 4, 13, 22 from day 1 on", 22, y.learns(0, 0));
+        NinthDayHooded far = townOf("30;10p;20");
+        far.days(22);
+        due("the third lesson is told", 0, far.learns(0, 0));
+        far.set(0, 2, 0);
+        due("the next one gives it back", 9, far.learns(0, 0));
+        dueRow("it is the fourth", far, 4);
+        NinthDayHooded forty = townOf("30;10pq");
+        forty.days(9);
+        due("p has one lesson: q on days 30, 39, 48 from day 9 on", 40, forty.learns(0, 1));
+        dueRow("the last of forty days", forty, 3);
+        forty.set(0, 0, 4);
+        due("a day too late", -2, forty.learns(0, 1));
+        dueRow("a day too late", forty, 2);
         y.days(4);
         due("days 13, 22 from day 5 on", 18, y.learns(0, 0));
         dueRow("three lessons", y, 3);
@@ -894,6 +942,11 @@ public final class NinthDayHoodedPromises {
         dueRow("none sees", y, 0);
         y.task(0, 1);
         due("two tasks of one trade", 1, y.manned(1));
+        y.set(2, 2, 0);
+        due("c has no trade any more", 2, y.manned(1));
+        y.done();
+        y.done();
+        due("r is no task any more", 0, y.manned(1));
     }
 
     private static void bare() {
@@ -979,6 +1032,10 @@ public final class NinthDayHoodedPromises {
         x.task(2, 1);
         due("p and r: not on 0, 1, 4", 2, x.newcomer(5));
         dueRow("nothing is wanting", x, 0);
+        x.task(0, 1);
+        due("p is wanting on all days", 0, x.newcomer(1));
+        dueRow("it is one hand: still p on days 0 and 4, p or r on day 1", x, 2 + 1 + 1);
+        x.done();
         due("r: not on 1", 0, x.newcomer(4));
         dueRow("r helps on day 1", x, 2);
         due("p: not on 0", 1, x.newcomer(1));
@@ -1093,6 +1150,14 @@ public final class NinthDayHoodedPromises {
         due("b to d", 1, x.please());
         dueRow("b to d", x, 4, 3);
         due("nothing changes", 0, x.of(1, 0));
+        NinthDayHooded first = townOf("50;60;00");
+        first.wish(0, 1, 1);
+        first.wish(1, 2, 1);
+        due("b to day 0 and 5 are as good, a to 6 is ahead", 0, first.please());
+        dueRow("a to day 6", first, 6, 1);
+        first.wish(0, 2, 1);
+        due("a to day 0", 0, first.please());
+        dueRow("the least hood of as many", first, 0, 1);
         NinthDayHooded y = townOf("00p;10p;20");
         y.task(0, 1);
         y.wish(0, 1, 1);
@@ -1109,6 +1174,15 @@ public final class NinthDayHoodedPromises {
         z.wish(0, 1, 0);
         due("as much wanting", 0, z.please());
         dueRow("two days want one instead of one day two", z, 1, 1);
+        z.wish(1, 2, 1);
+        due("b to day 1 is more", 1, z.please());
+        dueRow("b to day 1 is more", z, 1, 2);
+        NinthDayHooded w = townOf("00p;10p;20;30");
+        w.task(0, 1);
+        w.wish(0, 1, 1);
+        w.wish(2, 3, 1);
+        due("a and b must not, c and d may", 2, w.please());
+        dueRow("c to day 3", w, 3, 1);
     }
 
     private static void colours() {
@@ -1145,7 +1219,16 @@ public final class NinthDayHoodedPromises {
         x.wish(1, 2, 1);
         x.wish(2, 0, 0);
         due("not by a third one", -2, x.colours());
+        x.forget();
+        x.wish(0, 1, 0);
+        x.wish(1, 2, 1);
+        x.wish(2, 0, 1);
+        due("nor if the first wishes two", -2, x.colours());
         due("hoods stay", 4, x.of(4, 0));
+        NinthDayHooded nine = townOf("00;10;20;30;40;50;60;70;80");
+        nine.wish(0, 8, 0);
+        due("nine people", 2, nine.colours());
+        dueRow("nine people", nine, 0, 0, 0, 0, 0, 0, 0, 0, 1);
         NinthDayHooded crown = townOf("00;00;00;00;00;00");
         crown.wish(0, 3, 0);
         crown.wish(0, 5, 0);
@@ -1207,8 +1290,11 @@ public final class NinthDayHoodedPromises {
     private static void ring() {
         NinthDayHooded x = townOf("00;10;20;30;40");
         due("none", -2, x.ring());
-        dueRow("-2 tells no row", x);
+        x.blindest();
+        due("none", -2, x.ring());
+        dueRow("-2 tells no row", x, 1);
         NinthDayHooded two = fiveLiking("010000000", "001000000", "100000000", "000010000", "000100000");
+        two.guides(0);
         due("two are shorter", 2, two.ring());
         dueRow("d and e", two, 3, 4);
         NinthDayHooded three = fiveLiking("011000000", "001000000", "100100000", "100010000", "100000000");
@@ -1316,6 +1402,14 @@ public final class NinthDayHoodedPromises {
         dueRow("a, d", x, 1 + 8);
         x.set(3, 1, 4);
         due("it moved", 1, x.suspects(2));
+        dueRow("a alone", x, 1);
+        trustText(x, 4, "01111");
+        due("e is not hooded: trust does not matter", 1, x.suspects(2));
+        x.set(4, 0, 5);
+        due("e is hooded and does not trust a", 0, x.suspects(2));
+        dueRow("nobody", x, 0);
+        x.set(4, 0, 4);
+        x.suspects(2);
         due("3", NONE, x.suspects(3));
         due("-1", NONE, x.suspects(-1));
         dueRow("a refused call leaves the row", x, 1);
@@ -1337,6 +1431,11 @@ public final class NinthDayHoodedPromises {
         x.theft(4, 12);
         due("d is hooded then", 0, x.thief());
         dueRow("some theft has none", x, -1, 0);
+        NinthDayHooded each = townOf("00;10");
+        each.theft(0, 5);
+        each.theft(1, 5);
+        due("each robbed the other", 0, each.thief());
+        dueRow("both", each, 2, 3);
         NinthDayHooded y = townOf("00;10;20;30");
         y.theft(0, 5);
         due("b, c, d", 14, y.thief());
@@ -1377,6 +1476,7 @@ public final class NinthDayHoodedPromises {
         due("in 7 days", 7, x.dark(0, 5, 40));
         due("in 8 days", 8, x.dark(0, 4, 9));
         due("too few days", -2, x.dark(0, 4, 8));
+        due("0 where nobody lives", 0, x.dark(4, 0, 1));
         x.witness(0, 0);
         due("20", 0, x.dark(4, 20, 40));
         dueRow("no row is told", x, 2 + 4, 1);
