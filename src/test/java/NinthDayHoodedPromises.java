@@ -1436,6 +1436,15 @@ public final class NinthDayHoodedPromises {
         each.theft(1, 5);
         due("each robbed the other", 0, each.thief());
         dueRow("both", each, 2, 3);
+        NinthDayHooded nine = townOf("00;10;20;30;40;50;60;70;80");
+        for (int p = 0; p < 9; p++) {
+            StringBuilder next = new StringBuilder("000000000");
+            next.setCharAt((p + 1) % 9, '1');
+            trustText(nine, p, next.toString());
+            nine.theft(p, 9 + p);
+        }
+        due("each was robbed by the next, hooded", 0, nine.thief());
+        dueRow("all nine", nine, 9, 511);
         NinthDayHooded y = townOf("00;10;20;30");
         y.theft(0, 5);
         due("b, c, d", 14, y.thief());
