@@ -556,7 +556,8 @@ public final class NinthDayHoodedBoundaries {
     @Says("things: a NUMBER of 1 to 3 digits")
     private static void termsNumbers() {
         dueCosts(texts("0", "7", "77", "099", "007", "000", "900-899"), 0, 7, 77, 99, 7, 0, 1);
-        dueCosts(texts("1000", "0000", "7-1000", "(1000)", "t1", "1t"), -4, -4, -6, -5, -2, -2);
+        dueCosts(texts("1000", "0000", "7-1000", "(1000)", "t1", "1t", "5+t1", "(5)1"), -4, -4, -6, -5, -2, -2, -4, -4);
+        dueCosts(texts(":", "5:", "/", "55/", "5."), -1, -2, -1, -4, -2);
     }
 
     @Says("an EXPRESSION in ( ) (at most 4 in one another)")
@@ -794,6 +795,43 @@ public final class NinthDayHoodedBoundaries {
         x.pardon();
         townText(x, "00");
         dueRow("calls that do not say so leave it", x, 2);
+    }
+
+    @Says("-2: they can't be met;")
+    private static void termsRowStaysWhereNoneIsTold() {
+        // Only learns() says that a row is told with -2; these do not, so that the row told last stays.
+        NinthDayHooded x = townOf(FOUR);
+        x.task(5, 3);
+        x.wish(0, 1, 1);
+        x.wish(0, 1, 0);
+        x.witness(0, 0);
+        Act[] calls = {y -> y.mends(), y -> y.mend(), y -> y.colours(), y -> y.ring(), y -> y.turn(), y -> y.friend(4), y -> y.dark(0, 0, 9)};
+        for (int i = 0; i < calls.length; i++) {
+            due("call " + i, -2, calls[i].on(x));
+            dueRow("call " + i, x, 4 + 8, 1 + 2);
+        }
+    }
+
+    @Says("ROW: numbers told last")
+    private static void termsRowHoldsNoOlderNumbers() {
+        Act[] calls = {x -> x.guides(0), x -> x.lonely(0), x -> x.hardest(), x -> x.day(), x -> x.days(2), x -> x.season(), x -> x.leads(0),
+            x -> x.ahead(1), x -> x.learns(0, 0), x -> x.manned(0), x -> x.bare(), x -> x.blindest(), x -> x.mends(), x -> x.mend(),
+            x -> x.newcomer(0), x -> x.met(), x -> x.please(), x -> x.colours(), x -> x.friend(0), x -> x.ring(), x -> x.turn(),
+            x -> x.rests(), x -> x.liked(), x -> x.suspects(0), x -> x.thief(), x -> x.witness(0, 0)};
+        int[] sizes = {3, 1, 2, 2, 2, 2, 2, 5, 1, 1, 1, 1, 2, 2, 1, 1, 2, 3, 2, 2, 2, 3, 1, 1, 2, 2};
+        for (int i = 0; i < calls.length; i++) {
+            NinthDayHooded x = townOf("00;10p;10p");
+            x.task(0, 1);
+            x.theft(0, 0);
+            likesText(x, 0, "010000000");
+            likesText(x, 1, "100000000");
+            for (int k = 0; k < 3; k++) {
+                x.ahead(0);
+                due("ahead(0)", 5, x.count(8));
+            }
+            calls[i].on(x);
+            due("numbers of the row behind call " + i, sizes[i], x.count(8));
+        }
     }
 
     @Says("Rows of numbers are compared from the first on.")
@@ -1216,12 +1254,12 @@ public final class NinthDayHoodedBoundaries {
 
     @Says("-1 - p: as town()")
     private static void p07SignsThatCannotStand() {
-        String[] rules = {"x", "T", " t", "t ", "tt", "t(", "()", "t)", "2x", "t+)", "(t+)", "t;", "", "(1)2", "1.5"};
-        int[] at = {0, 0, 0, 1, 1, 1, 1, 1, 1, 2, 3, 1, 0, 3, 1};
+        String[] rules = {"x", "T", " t", "t ", "tt", "t(", "()", "t)", "2x", "t+)", "(t+)", "t;", "(1)2", "1.5", "t\u00ffu", "\u00fft",
+            "\u0000", "t\u0000"};
+        int[] at = {0, 0, 0, 1, 1, 1, 1, 1, 1, 2, 3, 1, 3, 1, 1, 0, 0, 1};
         NinthDayHooded x = townOf("00;10");
         for (int i = 0; i < rules.length; i++) {
-            boolean empty = rules[i].isEmpty();
-            due("rule " + rules[i], empty ? 0 : -1 - at[i], ruleText(x, rules[i]));
+            due("rule " + rules[i], -1 - at[i], ruleText(x, rules[i]));
         }
         due("none of them is the rule", 8, x.cost(0, 1));
     }
@@ -1252,6 +1290,11 @@ public final class NinthDayHoodedBoundaries {
         due("one in q", 1, x.of(0, 5));
         x.set(0, 2, 0);
         due("both", 3, x.of(0, 5));
+        NinthDayHooded last = townOf("00u;10;20");
+        ruleText(last, "j");
+        last.days(3);
+        due("the last one's", 1, last.of(2, 5));
+        due("the first one's", 0, last.of(0, 5));
     }
 
     @Says("NoSuchElementException: none such, another what.")
@@ -1290,6 +1333,12 @@ public final class NinthDayHoodedBoundaries {
         due("the last trade", 1, x.lessons(0, 5));
         due("the first trade", 0, x.lessons(0, 0));
         due("the last of them", 0, x.lessons(1, 0));
+        NinthDayHooded last = townOf("00tu;11;22;33;44;55;66;77;88");
+        ruleText(last, "j");
+        last.days(9);
+        due("the last of nine", 1, last.lessons(8, 4));
+        due("in the last trade", 0, last.lessons(8, 5));
+        due("of the first", 0, last.lessons(0, 4));
         due("trade 6", NONE, x.lessons(0, 6));
         due("trade -1", NONE, x.lessons(0, -1));
         due("none such", NONE, x.lessons(2, 0));
@@ -1313,7 +1362,8 @@ public final class NinthDayHoodedBoundaries {
     @Says("what it was. Refused: others.")
     private static void p11Others() {
         NinthDayHooded x = townOf("33pq");
-        int[][] refused = {{0, 0, 9}, {0, 0, -1}, {0, 1, 9}, {0, 1, -1}, {0, 2, 64}, {0, 2, -1}, {0, 3, 0}, {0, -1, 0}, {1, 0, 0}, {-1, 0, 0}};
+        int[][] refused = {{0, 0, 9}, {0, 0, -1}, {0, 1, 9}, {0, 1, -1}, {0, 2, 64}, {0, 2, -1}, {0, 3, 0}, {0, -1, 0},
+            {1, 0, 0}, {-1, 0, 0}};
         for (int[] r : refused) {
             due("set" + Arrays.toString(r), NONE, x.set(r[0], r[1], r[2]));
         }
@@ -1477,6 +1527,9 @@ public final class NinthDayHoodedBoundaries {
         dueRow("nobody sees", x, 15);
         due("nobody is hooded", 0, x.lonely(5));
         dueRow("nobody is hooded", x, 0);
+        NinthDayHooded y = townOf("10;00;00;00");
+        due("a leads two of three", 8, y.lonely(0));
+        dueRow("a could lead each", y, 0);
     }
 
     @Says("Who is led by nobody, by GUIDES of a DAY (0 .. 999)")
@@ -1545,6 +1598,8 @@ public final class NinthDayHoodedBoundaries {
         x.days(18);
         due("the third lesson", 1, x.day());
         dueRow("a trade is learnt", x, 8, 1);
+        due("the day behind it", 1, x.day());
+        dueRow("of this day alone", x, 8, 0);
     }
 
     @Says("n DAYS (0 .. 40) go by: how many were led in all; the ROW: COST in all, how many TRADES were learnt. NONE: another n.")
@@ -1561,6 +1616,7 @@ public final class NinthDayHoodedBoundaries {
         dueRow("the row stays", x, 80, 1);
         due("now", 40, x.count(1));
         due("one", 0, x.days(1));
+        dueRow("of this day alone", x, 0, 0);
         due("now", 41, x.count(1));
     }
 
@@ -1683,8 +1739,8 @@ public final class NinthDayHoodedBoundaries {
         for (String season : early) {
             due(season, -1 - season.length(), seasonText(x, season));
         }
-        String[] more = {"d;".repeat(30) + "d", "d;".repeat(30) + "x", "d;".repeat(29) + "d1;", "d;".repeat(29) + "d12", "d;".repeat(29) + "ha1",
-            "d;".repeat(29) + "d;;", "d;".repeat(40)};
+        String[] more = {"d;".repeat(30) + "d", "d;".repeat(30) + "x", "d;".repeat(29) + "d1;", "d;".repeat(29) + "d12",
+            "d;".repeat(29) + "ha1", "d;".repeat(29) + "d;;", "d;".repeat(40)};
         for (String season : more) {
             due(season, -1 - 60, seasonText(x, season));
         }
@@ -1838,6 +1894,21 @@ public final class NinthDayHoodedBoundaries {
         due("likes stay", 9, x.of(0, 3));
         due("the rule stays", 5, x.cost(0, 1));
         due("tasks, wishes, thefts stay", 3, x.count(3) + x.count(4) + x.count(5));
+        NinthDayHooded nine = townOf("00u;11;22;33;44;55;66;77;88");
+        ruleText(nine, "j");
+        nine.days(9);
+        nine.days(9);
+        nine.set(8, 0, 0);
+        nine.set(8, 1, 0);
+        nine.set(8, 2, 63);
+        due("two lessons of the last", 2, nine.lessons(8, 5));
+        nine.undo();
+        due("one lesson of the last", 1, nine.lessons(8, 5));
+        due("hood of the last", 8, nine.of(8, 0));
+        due("street of the last", 8, nine.of(8, 1));
+        due("trades of the last", 0, nine.of(8, 2));
+        nine.undo();
+        due("no lesson of the last", 0, nine.lessons(8, 5));
     }
 
     @Says("how many are left that can be. Refused: none.")
@@ -1899,6 +1970,15 @@ public final class NinthDayHoodedBoundaries {
         due("nobody led c", -3, x.led(2, 2));
         due("d was not hooded", -2, x.led(3, 2));
         due("a was not hooded", -2, x.led(0, 1));
+        NinthDayHooded nine = townOf(NINE);
+        ruleText(nine, "9-j");
+        nine.days(9);
+        due("the ninth led a", 8, nine.led(0, 9));
+        due("the eighth led the ninth", 7, nine.led(8, 1));
+        due("the ninth was not hooded", -2, nine.led(8, 2));
+        trustText(nine, 8, "000000000");
+        nine.days(9);
+        due("nobody led the ninth", -3, nine.led(8, 1));
         x.set(0, 0, 1);
         due("what it is now does not matter", -2, x.led(0, 1));
         due("what it is now does not matter", 3, x.led(0, 2));
@@ -1928,6 +2008,13 @@ public final class NinthDayHoodedBoundaries {
         townText(late, "20");
         due("30 days ago, it came since", -4, late.led(2, 30));
         due("30 days ago", -2, late.led(0, 30));
+        NinthDayHooded eight = townOf("00;11;22;33;44;55;66;77");
+        eight.day();
+        townText(eight, "88");
+        due("the ninth came since", -4, eight.led(8, 1));
+        eight.day();
+        due("the ninth was not hooded", -2, eight.led(8, 1));
+        due("the ninth came since", -4, eight.led(8, 2));
     }
 
     @Says("or it came since); NONE: others.")
@@ -1971,6 +2058,15 @@ public final class NinthDayHoodedBoundaries {
         due("day 1 is in", 4, x.leads(0));
         x.day();
         due("day 1 is out", 3, x.leads(0));
+        NinthDayHooded nine = townOf(NINE);
+        ruleText(nine, "(j=8)*9+j");
+        nine.days(9);
+        due("a leads the eight others", 8, nine.leads(0));
+        dueRow("b the first of them", nine, 510, 1);
+        ruleText(nine, "9-j");
+        nine.days(9);
+        due("i leads the eight others", 8, nine.leads(8));
+        dueRow("a the first of them", nine, 255, 0);
     }
 
     @Says("`int leads(int person)`")
@@ -1991,6 +2087,8 @@ public final class NinthDayHoodedBoundaries {
         dueRow("none", x, 0, 0, 0, 0);
         due("forty", 10, x.ahead(40));
         dueRow("a learns p with the third lesson", x, 5, 5, 30, 1);
+        due("asked again", 10, x.ahead(40));
+        dueRow("asked again", x, 5, 5, 30, 1);
         due("41", NONE, x.ahead(41));
         due("-1", NONE, x.ahead(-1));
         dueRow("the row stays", x, 5, 5, 30, 1);
@@ -2018,6 +2116,11 @@ public final class NinthDayHoodedBoundaries {
         forty.days(9);
         due("p on days 12 and 21, q on days 30, 39, 48: the fortieth from day 9 on", 40, forty.learns(0, 1));
         dueRow("three", forty, 3);
+        NinthDayHooded last = townOf("00u;10;20");
+        ruleText(last, "j");
+        last.days(11);
+        due("the last of them, on days 2, 11 and 20", 10, last.learns(2, 5));
+        dueRow("three", last, 3);
     }
 
     @Says("-2: not in these (the ROW: LESSONS behind 40 DAYS); NONE: others.")
@@ -2188,6 +2291,9 @@ public final class NinthDayHoodedBoundaries {
         due("nobody there, no tasks", 0, none.mends());
         none.task(0, 1);
         due("nobody there", -2, none.mends());
+        NinthDayHooded nine = townOf(NINE);
+        nine.task(5, 1);
+        due("nine of whom none can do it", -2, nine.mends());
     }
 
     @Says("It is done as mends() tells: how many have another HOOD then; the ROW as there. -2: likewise.")
@@ -2382,6 +2488,15 @@ public final class NinthDayHoodedBoundaries {
         y.task(0, 1);
         due("one, then none: less", 0, y.please());
         dueRow("less", y, 1, 1);
+        NinthDayHooded z = townOf("00p;10p;20;33;44;55;66;77;88");
+        z.task(0, 1);
+        z.wish(0, 1, 1);
+        z.wish(8, 7, 1);
+        due("a and b may not, h to i's hood may", 7, z.please());
+        dueRow("h to i's hood", z, 8, 1);
+        z.wish(8, 6, 1);
+        due("of nine the last: g's or h's hood meet one, as does g to i's", 6, z.please());
+        dueRow("g to i's hood", z, 8, 1);
     }
 
     @Says("The fewest HOODS (1 .. 9) that PEOPLE can have, so that all WISHES are met: how many")
@@ -2437,6 +2552,21 @@ public final class NinthDayHoodedBoundaries {
         due("all alike", 1, x.colours());
         x.wish(0, 3, 0);
         due("a and d by b and c", -2, x.colours());
+        x.forget();
+        x.wish(1, 0, 1);
+        due("b and a alike", 1, x.colours());
+        x.forget();
+        x.wish(0, 1, 0);
+        due("they wish two now", 2, x.colours());
+        NinthDayHooded nine = townOf(NINE);
+        for (int i = 0; i < 8; i++) {
+            nine.wish(8, i, 1);
+        }
+        due("nine alike", 1, nine.colours());
+        for (int i = 0; i < 4; i++) {
+            due("wish", 9 + i, nine.wish(i, i + 1, i == 3 ? 0 : 1));
+        }
+        due("the last of twelve can't be met", -2, nine.colours());
     }
 
     @Says("of as good ones nobody (NONE), then the first: it; the ROW: how many are led by nobody, COST.")
@@ -2451,6 +2581,15 @@ public final class NinthDayHoodedBoundaries {
         due("the rule does not ask for trust: nobody", NONE, x.friend(1));
         dueRow("nobody", x, 0, 21);
         due("one alone", NONE, townOf("00").friend(0));
+        NinthDayHooded y = townOf("00;10;20");
+        due("a and b are as good: a", 0, y.friend(2));
+        dueRow("c by a costs 0", y, 0, 8 + 8 + 0);
+        NinthDayHooded nine = townOf("00;10;20;30;40;50;60;70;80");
+        ruleText(nine, "(9-t)*(j=8)+(j<8)*9");
+        due("a by i costs 0 instead of 8", 8, nine.friend(0));
+        dueRow("i by any costs 9", nine, 0, 0 + 7 * 8 + 9);
+        due("i by any costs 9", NONE, nine.friend(8));
+        dueRow("nobody", nine, 0, 8 * 8 + 9);
     }
 
     @Says("in DAYS NOW .. NOW + 8 (no TRADES being learnt), the fewest are led by nobody in all, of those with the least COST in all")
@@ -2594,6 +2733,8 @@ public final class NinthDayHoodedBoundaries {
         due("nobody there", 0, none.liked());
         dueRow("nobody there", none, 0);
         NinthDayHooded x = townOf("00;10");
+        due("no likes", 0, x.liked());
+        dueRow("no likes", x, 0);
         likesText(x, 0, "590000009");
         likesText(x, 1, "090000009");
         due("as it is", 5 + 9, x.liked());
@@ -2713,6 +2854,9 @@ public final class NinthDayHoodedBoundaries {
         }
         due("each by the next alone", 0, ring.thief());
         dueRow("all nine", ring, 9, 511);
+        ring.theft(8, 8);
+        due("ten thefts", 0, ring.thief());
+        dueRow("all nine", ring, 9, 511);
     }
 
     @Says("(NONE: some theft has none), they (bits; of as few the least; 0 for NONE).")
@@ -2773,6 +2917,10 @@ public final class NinthDayHoodedBoundaries {
         due("eight days on", 8, x.dark(0, 1, 9));
         due("v 20", 0, x.dark(0, 20, 1));
         due("v 0 where nobody lives", 0, x.dark(4, 0, 1));
+        due("beside it", -2, x.dark(1, 1, 1));
+        due("beside it, round the ring", -2, x.dark(8, 1, 1));
+        due("two streets off", 0, x.dark(2, 0, 1));
+        due("two streets off, round the ring", 0, x.dark(7, 0, 1));
     }
 
     @Says("how many DAYS on. -2: none; NONE: others.")
@@ -2894,6 +3042,19 @@ public final class NinthDayHoodedBoundaries {
         due("not known", -4, x.led(0, 11));
         due("trust stays", 5, x.trusts(0, 1));
         due("tasks stay", 1, x.count(3));
+        NinthDayHooded nine = townOf("00u;11;22;33;44;55;66;77;88");
+        ruleText(nine, "j");
+        nine.days(9);
+        nine.keep(0);
+        nine.days(9);
+        nine.set(8, 0, 0);
+        nine.set(8, 1, 0);
+        nine.set(8, 2, 63);
+        nine.again(0);
+        due("one lesson of the last", 1, nine.lessons(8, 5));
+        due("hood of the last", 8, nine.of(8, 0));
+        due("street of the last", 8, nine.of(8, 1));
+        due("trades of the last", 0, nine.of(8, 2));
     }
 
     @Says("They are as they were kept under a number. Refused: nothing kept, PEOPLE came since.")
