@@ -802,8 +802,8 @@ public final class NinthDayHoodedBoundaries {
         // Only learns() says that a row is told with -2; these do not, so that the row told last stays.
         NinthDayHooded x = townOf(FOUR);
         x.task(5, 3);
-        x.wish(0, 1, 1);
         x.wish(0, 1, 0);
+        x.wish(0, 1, 1);
         x.witness(0, 0);
         Act[] calls = {y -> y.mends(), y -> y.mend(), y -> y.colours(), y -> y.ring(), y -> y.turn(), y -> y.friend(4), y -> y.dark(0, 0, 9)};
         for (int i = 0; i < calls.length; i++) {
@@ -1494,6 +1494,14 @@ public final class NinthDayHoodedBoundaries {
         ruleText(y, "10+i");
         due("c is led by nobody", 1, y.guides(0));
         dueRow("the cost of the others", y, 10 + 11, 7, 3, 3, -1);
+        NinthDayHooded z = townOf("00;00;00;00;00;00;10;10;10");
+        for (int p = 0; p < 6; p++) {
+            trustText(z, p, "000000000");
+        }
+        due("six trust nobody", 6, z.guides(0));
+        dueRow("six trust nobody", z, 0, 63, -1, -1, -1, -1, -1, -1);
+        due("asked behind that day", 0, z.guides(1));
+        dueRow("asked behind that day", z, 24, 448, 0, 0, 1);
     }
 
     @Says("`int guides(int day)`: GUIDES of a DAY (0 .. 999)")
