@@ -1222,8 +1222,12 @@ public final class NinthDayHooded {
         }
 
         private int entry(int person, int daysAgo) {
-            int page = Math.floorMod(now - daysAgo, BOOK_DAYS);
-            return (int) (book[page] >>> (person * ENTRY_BITS)) & 15;
+            return (int) (book[pageOf(daysAgo)] >>> (person * ENTRY_BITS)) & 15;
+        }
+
+        // floorMod, so that there is a page for every int that NOW could come to.
+        private int pageOf(int daysAgo) {
+            return Math.floorMod(now - daysAgo, BOOK_DAYS);
         }
 
         private void openPage(int n) {
@@ -1231,13 +1235,12 @@ public final class NinthDayHooded {
             for (int p = MOST_PEOPLE - 1; p >= 0; p--) {
                 page = page << ENTRY_BITS | (p < n ? NOT_HOODED : NOT_COME);
             }
-            book[now % BOOK_DAYS] = page;
+            book[pageOf(0)] = page;
         }
 
         private void write(int person, int entry) {
-            int page = now % BOOK_DAYS;
             long change = NOT_HOODED ^ entry;
-            book[page] ^= change << (person * ENTRY_BITS);
+            book[pageOf(0)] ^= change << (person * ENTRY_BITS);
         }
     }
 
